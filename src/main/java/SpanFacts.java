@@ -424,17 +424,16 @@ public final class SpanFacts {
         return reach.options(a, b);
     }
 
-    /**
-     * The least bits of so many more facts without which the fact is not refuted any more.
-     * One of each ring must go, so only the facts of the ring that is found need be tried.
-     */
+    /** The least bits of facts, those gone and so many more at most, without which the fact is not refuted. */
     private int leastYield(int kind, int a, int b, int gone, int left) {
         if (!sketch.seek(facts, gone, kind, a, b)) {
             return gone;
         }
-        if (left <= 0) {
-            return NONE;
-        }
+        return left <= 0 ? NONE : leastOfRing(kind, a, b, gone, left);
+    }
+
+    /** One fact of each ring must go, so only those of the ring just found need be tried. */
+    private int leastOfRing(int kind, int a, int b, int gone, int left) {
         int ringBits = sketch.bits();
         int best = NONE;
         for (int k = 0; k < facts.count; k++) {
@@ -1003,31 +1002,35 @@ public final class SpanFacts {
          */
         private int follow(int pair, int layer, int found) {
             int at = pair;
-            while (at < pairs && Integer.bitCount(layers[layer].options(firsts[at], seconds[at])) == 1) {
+            while (at < pairs && Integer.bitCount(optionsOf(at, layer)) == 1) {
                 at++;
             }
             if (at >= pairs || layer >= MOST_FACTS) {
                 return found + 1;
             }
-            int open = layers[layer].options(firsts[at], seconds[at]);
+            int open = optionsOf(at, layer);
             int sum = found;
             for (int bit = MAY_BEFORE; bit <= MAY_BESIDE && sum <= MOST_WAYS; bit <<= 1) {
                 if ((open & bit) != 0) {
-                    branch(layer, bit, firsts[at], seconds[at]);
-                    sum = follow(at + 1, layer + 1, sum);
+                    sum = branch(at, layer, bit, sum);
                 }
             }
             return sum;
         }
 
-        private void branch(int layer, int bit, int a, int b) {
+        private int branch(int pair, int layer, int bit, int found) {
             Reach next = layers[layer + 1];
             next.copyFrom(layers[layer]);
             if (bit == MAY_AFTER) {
-                next.join(BEFORE, b, a);
+                next.join(BEFORE, seconds[pair], firsts[pair]);
             } else {
-                next.join(bit == MAY_BEFORE ? BEFORE : BESIDE, a, b);
+                next.join(bit == MAY_BEFORE ? BEFORE : BESIDE, firsts[pair], seconds[pair]);
             }
+            return follow(pair + 1, layer + 1, found);
+        }
+
+        private int optionsOf(int pair, int layer) {
+            return layers[layer].options(firsts[pair], seconds[pair]);
         }
     }
 
