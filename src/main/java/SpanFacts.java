@@ -760,10 +760,12 @@ public final class SpanFacts {
 
         /** All that can be reached from item m can be reached from u with so much more. */
         private void raiseRow(int u, int more, int m) {
+            int from = u * MOST_ITEMS;
+            int over = m * MOST_ITEMS;
             for (int v = 0; v < items; v++) {
-                int rest = between(m, v);
-                if (rest != NO_WAY && more + rest > between(u, v)) {
-                    most[u * MOST_ITEMS + v] = more + rest;
+                int rest = most[over + v];
+                if (rest != NO_WAY && more + rest > most[from + v]) {
+                    most[from + v] = more + rest;
                 }
             }
         }
@@ -997,18 +999,18 @@ public final class SpanFacts {
         }
 
         /**
-         * Pairs of which but one thing may be told are passed: telling it raises no sum.
          * Of each pair something may be told, so no branch is lost and the count's bound ends the search.
+         * Behind the last open pair there is nothing to look at: what may be told of others gets no more.
          */
         private int follow(int pair, int layer, int found) {
-            int at = pair;
-            while (at < pairs && Integer.bitCount(optionsOf(at, layer)) == 1) {
-                at++;
-            }
+            int at = nextOpen(pair, layer);
             if (at >= pairs || layer >= MOST_FACTS) {
                 return found + 1;
             }
             int open = optionsOf(at, layer);
+            if (nextOpen(at + 1, layer) >= pairs) {
+                return found + Integer.bitCount(open);
+            }
             int sum = found;
             for (int bit = MAY_BEFORE; bit <= MAY_BESIDE && sum <= MOST_WAYS; bit <<= 1) {
                 if ((open & bit) != 0) {
@@ -1016,6 +1018,15 @@ public final class SpanFacts {
                 }
             }
             return sum;
+        }
+
+        /** Pairs of which but one thing may be told are passed: telling it raises no sum. */
+        private int nextOpen(int pair, int layer) {
+            int at = pair;
+            while (at < pairs && Integer.bitCount(optionsOf(at, layer)) == 1) {
+                at++;
+            }
+            return at;
         }
 
         private int branch(int pair, int layer, int bit, int found) {

@@ -442,8 +442,10 @@ final class PromiseTest {
         Check.due("gap of no item", x.gap(-1, 0, 5, 0), HIDDEN);
         Check.due("gap of length 0", x.gap(0, 1, 0, 0), HIDDEN);
         Check.due("gap of length 61", x.gap(0, 1, 61, 0), HIDDEN);
-        Check.due("gap of what 2", x.gap(0, 1, 5, 2), HIDDEN);
-        Check.due("gap of what -1", x.gap(0, 1, 5, -1), HIDDEN);
+        for (int what : new int[] {-1, 2, Integer.MIN_VALUE, Integer.MAX_VALUE}) {
+            Check.due("gap(0, 1, 5, " + what + ")", x.gap(0, 1, 5, what), HIDDEN);
+            Check.due("gap(1, 0, 5, " + what + ")", x.gap(1, 0, 5, what), HIDDEN);
+        }
         x.tell(1, 0, 2);
         Check.due("gap below the least", x.gap(0, 1, 1, 0), HIDDEN);
         Check.due("gap(0, 1, 5, 1)", x.gap(0, 1, 5, 1), 8);
