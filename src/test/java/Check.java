@@ -2,8 +2,14 @@
 final class Check {
     private static int calls = 0;
     private static int wrong = 0;
+    private static String topic = "";
 
     private Check() {
+    }
+
+    /** What the answers that follow are about; it is told ahead of each wrong one. */
+    static void topic(String text) {
+        topic = text.isEmpty() ? "" : text + ": ";
     }
 
     static void due(String call, long got, long want) {
@@ -11,7 +17,7 @@ final class Check {
         if (got != want) {
             wrong++;
             if (wrong <= 50) {
-                System.out.println(call + " answered " + got + ", due is " + want);
+                System.out.println(topic + call + " answered " + got + ", due is " + want);
             }
         }
     }
@@ -75,12 +81,59 @@ final class Check {
     }
 
     static void dueState(String call, SpanFacts x, String want) {
-        String got = state(x);
+        dueText(call, state(x), want);
+    }
+
+    private static void dueText(String call, String got, String want) {
         calls++;
         if (!got.equals(want)) {
             wrong++;
-            System.out.println(call + ": the state is '" + got + "', due is '" + want + "'");
+            System.out.println(topic + call + ": the state is '" + got + "', due is '" + want + "'");
         }
+    }
+
+    /** So many items, of which facts are told one by one: 0<1 (0 before 1), 1~2 (beside). */
+    static SpanFacts told(int items, String facts) {
+        SpanFacts x = new SpanFacts();
+        for (int i = 0; i < items; i++) {
+            x.grow();
+        }
+        int k = 0;
+        for (String fact : facts.isEmpty() ? new String[0] : facts.split(" ")) {
+            int kind = fact.charAt(1) == '<' ? 0 : 1;
+            due("telling " + fact, x.tell(kind, fact.charAt(0) - '0', fact.charAt(2) - '0'), k);
+            k++;
+        }
+        return x;
+    }
+
+    /** The facts as told() takes them. */
+    static String facts(SpanFacts x) {
+        StringBuilder s = new StringBuilder();
+        for (int k = 0; k < x.now(1); k++) {
+            s.append(k == 0 ? "" : " ").append(x.fact(k, 1)).append(x.fact(k, 0) == 0 ? '<' : '~').append(x.fact(k, 2));
+        }
+        return s.toString();
+    }
+
+    static void dueFacts(String call, SpanFacts x, int items, String want) {
+        due(call + ": items", x.now(0), items);
+        dueText(call, facts(x), want);
+    }
+
+    /** What ring() tells, from 1 on. */
+    static String ring(SpanFacts x) {
+        StringBuilder s = new StringBuilder();
+        for (int i = 1; x.ring(i) != SpanFacts.NONE && i < 30; i++) {
+            s.append(i == 1 ? "" : " ").append(x.ring(i));
+        }
+        return s.toString();
+    }
+
+    static void dueRing(String call, SpanFacts x, int from, int to, String want) {
+        due(call + ": from", x.refuted(2), from);
+        due(call + ": to", x.refuted(3), to);
+        dueText(call + ", its ring", ring(x), want);
     }
 
     static String repeat(String s, int times) {
