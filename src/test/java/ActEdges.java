@@ -549,6 +549,17 @@ final class ActEdges {
         Check.dueFacts("turn() is undone", x, 3, "2<1 0<1 0<2");
         Check.due("undo()", x.undo(), 4);
         Check.dueFacts("finish() is undone", x, 3, "2<1");
+        SpanFacts z = Check.told(3, "2<1 1~0");
+        Check.due("finish()", z.finish(), 1);
+        Check.due("turn()", z.turn(), 2);
+        z.forget(0);
+        Check.due("turn()", z.turn(), 1);
+        Check.due("undo() of a turn() of 1", z.undo(), 7);
+        Check.dueFacts("undo() of a turn() of 1", z, 3, "1~0 0<2");
+        z.undo();
+        z.undo();
+        Check.due("undo() of a finish() of 1", z.undo(), 4);
+        Check.dueFacts("undo() of a finish() of 1", z, 3, "2<1 1~0");
         SpanFacts y = Check.told(4, "0<1");
         int done = y.drawn(60, 99);
         Check.due("many deeds are one act", done > 1 ? y.now(4) : -9, 6);

@@ -610,6 +610,12 @@ final class FactEdges {
         x.forget(27);
         Check.due("all but 6 and 7", x.ways(), 3);
         Check.due("facts", x.now(1), 27);
+        SpanFacts y = Check.told(4, "");
+        int[] due = {1, 1, 3, 19, 183};
+        for (int left = 4; left >= 0; left--) {
+            Check.due("one object, of " + left, y.ways(), due[left]);
+            y.drop(0);
+        }
     }
 
     private static void dueWays(int n, String facts, int due) {

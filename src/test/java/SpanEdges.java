@@ -478,6 +478,7 @@ final class SpanEdges {
         Check.due("no least", x.gap(1, 0, 5, 0), HIDDEN);
         Check.due("no least", x.gap(0, 2, 5, 0), HIDDEN);
         Check.due("no most", x.gap(0, 2, 5, 1), HIDDEN);
+        gapsWithoutFacts();
         for (int item : noItem(3)) {
             for (int what = 0; what < 2; what++) {
                 Check.due("gap(" + item + ", 0, 5, " + what + ")", x.gap(item, 0, 5, what), HIDDEN);
@@ -500,6 +501,19 @@ final class SpanEdges {
         }
         Check.due("by the least", y.gap(0, 1, 4, 0), 4);
         Check.due("of no items", new SpanFacts().gap(0, 0, 1, 0), HIDDEN);
+    }
+
+    /** Two pairs of items: of each item of one and each of the other there is neither a least nor a most. */
+    private static void gapsWithoutFacts() {
+        for (String facts : new String[] {"0<1 2<3", "0~1 2~3", "1<0 3~2", "2~3 0<1"}) {
+            SpanFacts x = Check.told(4, facts);
+            for (int i = 0; i < 16; i++) {
+                int a = i / 4;
+                int b = 2 - a / 2 * 2 + i % 2;
+                Check.due("gap(" + a + ", " + b + ", 9, 0) with " + facts, x.gap(a, b, 9, 0), HIDDEN);
+                Check.due("gap(" + a + ", " + b + ", 9, 1) with " + facts, x.gap(a, b, 9, 1), HIDDEN);
+            }
+        }
     }
 
     private static void tightTo60() {
@@ -540,6 +554,8 @@ final class SpanEdges {
         Check.due("beside one that has to go ahead", y.late(3, 3, 20), 16);
         Check.due("of which nothing behind it is told", y.late(2, 3, 20), 20);
         Check.due("late(3, 3, 6)", y.late(3, 3, 6), 2);
+        Check.due("the first item is behind", Check.told(2, "1<0").late(1, 7, 20), 13);
+        Check.due("the first item is behind", Check.told(2, "1<0").late(0, 7, 20), 20);
         Check.due("w 0", Check.told(1, "").late(0, 60, 0), 0);
         Check.due("w 999", Check.told(1, "").late(0, 60, 999), 999);
     }
@@ -550,6 +566,7 @@ final class SpanEdges {
         Check.due("there are none", x.late(0, 60, 419), NONE);
         Check.due("there are none for another item either", Check.told(3, "0<1").late(2, 9, 8), NONE);
         Check.due("there are some", Check.told(3, "0<1").late(2, 9, 9), 9);
+        Check.due("there are none for the first item", Check.told(2, "1<0").late(1, 9, 8), NONE);
         Check.due("there are none", x.late(7, 1, 6), NONE);
         for (int w : new int[] {LOW, -1, 1000, 1001, HIGH}) {
             Check.due("late(0, 1, " + w + ")", x.late(0, 1, w), NONE);
@@ -630,6 +647,11 @@ final class SpanEdges {
         Check.due("of one: room(0)", Check.told(1, "").room(0), 0);
         dueRooms("", 8, 0, 1, 2, 3, 4, 5, 6, 7);
         dueRooms(CHAIN, 1, 0, 0, 0, 0, 0, 0, 0, 0);
+        SpanFacts x = Check.told(8, "");
+        for (int left = 8; left >= 0; left--) {
+            Check.due("of " + left, x.room(NONE), left);
+            x.drop(0);
+        }
     }
 
     private static void roomRefused() {

@@ -388,6 +388,10 @@ final class TextEdges {
         }
         dueFault(padded("item aa;item a;aa before ", 699, "aa;"), 2, 699);
         dueFault(padded("item aa;item a;a before ", 699, "aa;"), 1, 700);
+        for (int size : new int[] {700, 701, 739, 740}) {
+            dueFault(Check.repeat("a", size), 1, 0);
+            dueFault(spaces(699) + Check.repeat("a", size - 699), size < 707 ? 2 : 1, 699);
+        }
         dueFault(padded("item a;item", 699, ";;"), 1, 699);
         dueFault(padded("item a", 699, ";;"), 1, 700);
     }
@@ -549,6 +553,9 @@ final class TextEdges {
         Check.due("end(7)", x.end(7), true);
         x.feed(0x6974656d, 0x20633b20, 0x20202020, 0x20202020, 0x20202020);
         Check.due("what was cut is gone", x.notes(), 2);
+        x.feed(0x6974656d, 0x20613b69, 0x74656d20, 0x61623b20, 0x20202020);
+        Check.due("end(13)", x.end(13), true);
+        Check.due("letters behind the cut are not read", x.notes(), -13);
         Check.feed(x, "?");
         Check.due("end(0)", x.end(0), true);
         Check.due("now(5)", x.now(5), 0);
