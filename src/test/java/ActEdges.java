@@ -39,6 +39,7 @@ final class ActEdges {
         undoNotRefused();
         undoAboveNought();
         undoNotNought();
+        undoLeavesOthers();
         undoEight();
         undoNone();
         imageKept();
@@ -187,6 +188,8 @@ final class ActEdges {
                 Check.due("one is told", x.drawn(1, seedFor(8, 3, 2, a, 1, 0, 2, kind)), 0);
                 Check.dueFacts("one is told", x, 2, "0<1");
                 Check.due("acts", x.now(4), 3);
+                Check.due("all are drawn", x.drawn(2, seedFor(8, TELLS, 2, a, 1, 0, 2, kind, 8, 0, 1, 0)), 1);
+                Check.dueFacts("all are drawn", x, 2, "");
             }
         }
         SpanFacts y = Check.told(3, "0<1 1<2");
@@ -577,6 +580,33 @@ final class ActEdges {
         Check.due("acts", x.now(4), 3);
         Check.due("undo()", x.undo(), 2);
         Check.dueFacts("tell() is undone", x, 2, "");
+    }
+
+    /** Acts and their undoing change items and facts alone. */
+    private static void undoLeavesOthers() {
+        Sentence.of(35, " is undone: ");
+        SpanFacts x = Check.told(3, "0<1 1<2");
+        x.image(0);
+        x.test(0, 2, 0);
+        Check.notes(x, "item a;item a;");
+        Check.feed(x, "item z;");
+        x.forget(0);
+        x.grow();
+        x.turn();
+        x.finish();
+        x.make(3, 1);
+        x.drop(0);
+        x.tell(0, 0, 1);
+        for (int left = 7; left >= 0; left--) {
+            x.undo();
+            Check.due("the tape", x.now(5), 7);
+            Check.due("fault()", x.fault(), 2);
+            Check.due("refuted(0)", x.refuted(0), 3);
+            Check.dueRing("refuted()", x, 2, 0, "0 1");
+        }
+        Check.due("the image", x.restore(0), true);
+        Check.dueFacts("the image", x, 3, "0<1 1<2");
+        Check.due("the tape is read", x.notes(), 1);
     }
 
     private static void undoEight() {

@@ -372,25 +372,35 @@ final class FactEdges {
         Check.dueFacts("behind the others", y, 3, "2~1 0<2");
     }
 
-    private static void tellRefused() {
-        Sentence.of(9, "NONE: no such ones, one is told; ");
-        SpanFacts x = Check.told(4, "0<1 1<2 0<2");
+    /** A call of the face that takes a kind and two items. */
+    private interface Ask {
+        int of(int kind, int a, int b);
+    }
+
+    /** What tell(), test() and yields() refuse alike, with four items of which 0<1 1<2 0<2 is told. */
+    private static void dueRefused(SpanFacts x, Ask ask) {
         for (int o : odd(4)) {
-            Check.due("tell(0, " + o + ", 3)", x.tell(0, o, 3), NONE);
-            Check.due("tell(1, 3, " + o + ")", x.tell(1, 3, o), NONE);
+            Check.due("of " + o + " and 3", ask.of(0, o, 3), NONE);
+            Check.due("of 3 and " + o, ask.of(1, 3, o), NONE);
         }
         for (int kind : odd(2)) {
-            Check.due("tell(" + kind + ", 0, 3)", x.tell(kind, 0, 3), NONE);
+            Check.due("of kind " + kind, ask.of(kind, 0, 3), NONE);
         }
         for (int kind = 0; kind < 2; kind++) {
-            Check.due("one alone", x.tell(kind, 3, 3), NONE);
-            Check.due("one is told", x.tell(kind, 0, 1), NONE);
-            Check.due("one is told", x.tell(kind, 1, 0), NONE);
-            Check.due("one is told, though it would be refuted", x.tell(kind, 2, 0), NONE);
+            Check.due("one alone", ask.of(kind, 3, 3), NONE);
+            Check.due("one is told", ask.of(kind, 0, 1), NONE);
+            Check.due("one is told", ask.of(kind, 1, 0), NONE);
+            Check.due("one is told, though it would be refuted", ask.of(kind, 2, 0), NONE);
         }
         Check.dueFacts("nothing is told", x, 4, "0<1 1<2 0<2");
         Check.due("acts", x.now(4), 7);
         Check.due("nothing is refuted", x.refuted(0), NONE);
+    }
+
+    private static void tellRefused() {
+        Sentence.of(9, "NONE: no such ones, one is told; ");
+        SpanFacts x = Check.told(4, "0<1 1<2 0<2");
+        dueRefused(x, x::tell);
         Check.due("of no items", new SpanFacts().tell(0, 0, 1), NONE);
     }
 
@@ -418,6 +428,8 @@ final class FactEdges {
         Check.dueRing("by notes()", x, 0, 2, "0 1");
         x.tell(0, 3, 0);
         Check.dueRing("by tell()", x, 3, 0, "0 1 2");
+        Check.due("one that is not refuted", x.tell(1, 4, 0), 3);
+        Check.dueRing("one that is not refuted", x, 3, 0, "0 1 2");
         x.test(0, 0, 3);
         x.tell(0, 0, 0);
         x.tell(0, 1, 0);
@@ -662,22 +674,7 @@ final class FactEdges {
     private static void testRefused() {
         Sentence.of(18, "NONE: as for tell().");
         SpanFacts x = Check.told(4, "0<1 1<2 0<2");
-        for (int o : odd(4)) {
-            Check.due("test(0, " + o + ", 3)", x.test(0, o, 3), NONE);
-            Check.due("test(1, 3, " + o + ")", x.test(1, 3, o), NONE);
-            Check.due("yields(0, " + o + ", 3)", x.yields(0, o, 3), NONE);
-            Check.due("yields(1, 3, " + o + ")", x.yields(1, 3, o), NONE);
-        }
-        for (int kind : odd(2)) {
-            Check.due("test(" + kind + ", 0, 3)", x.test(kind, 0, 3), NONE);
-        }
-        for (int kind = 0; kind < 2; kind++) {
-            Check.due("one alone", x.test(kind, 3, 3), NONE);
-            Check.due("one is told", x.test(kind, 0, 1), NONE);
-            Check.due("one is told", x.test(kind, 1, 0), NONE);
-            Check.due("one is told, though it would be refuted", x.test(kind, 2, 0), NONE);
-        }
-        Check.due("nothing is refuted", x.refuted(0), NONE);
+        dueRefused(x, x::test);
         Check.due("of no items", new SpanFacts().test(0, 0, 1), NONE);
     }
 
@@ -707,19 +704,7 @@ final class FactEdges {
     private static void yieldsNone() {
         Sentence.of(19, "NONE: as for tell(); ");
         SpanFacts x = Check.told(4, "0<1 1<2 0<2");
-        for (int o : odd(4)) {
-            Check.due("yields(0, " + o + ", 3)", x.yields(0, o, 3), NONE);
-            Check.due("yields(1, 3, " + o + ")", x.yields(1, 3, o), NONE);
-        }
-        for (int kind : odd(2)) {
-            Check.due("yields(" + kind + ", 0, 3)", x.yields(kind, 0, 3), NONE);
-        }
-        for (int kind = 0; kind < 2; kind++) {
-            Check.due("one alone", x.yields(kind, 3, 3), NONE);
-            Check.due("one is told", x.yields(kind, 0, 1), NONE);
-            Check.due("one is told", x.yields(kind, 1, 0), NONE);
-            Check.due("one is told, though it would be refuted", x.yields(kind, 2, 0), NONE);
-        }
+        dueRefused(x, x::yields);
         Check.due("of no items", new SpanFacts().yields(0, 0, 1), NONE);
     }
 
