@@ -685,6 +685,7 @@ final class FactEdges {
         Check.due("two", x.yields(0, 4, 0), 3);
         Check.due("none", x.yields(0, 0, 5), 0);
         Check.due("one of a ring with beside", Check.told(4, "0<1 1~2 2<3").yields(1, 0, 3), 1);
+        Check.due("one of the longest ring", Check.told(8, "6<7 0<1 1<2 2<3 3<4 4<5 5<6").yields(0, 7, 0), 1);
         SpanFacts y = Check.told(5, "0<1 1<4 0<2 2<4 0<3 3<4");
         Check.due("three", y.yields(0, 4, 0), 21);
         Check.due("three", y.yields(1, 4, 0), 21);
