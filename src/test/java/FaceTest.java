@@ -1,12 +1,16 @@
+import java.io.IOException;
 import java.lang.reflect.Field;
 import java.lang.reflect.Method;
 import java.lang.reflect.Modifier;
+import java.nio.file.Files;
+import java.nio.file.Path;
 import java.util.Arrays;
 import java.util.Set;
 import java.util.TreeSet;
 
 /** The class has the document's face and nothing else that is not private. */
 final class FaceTest {
+    private static final Path DOC = Path.of("..", "shared", "DOC.md");
     private static final String[] FACE = {
         "int feed(int,int,int,int,int)", "boolean end(int)", "int notes()", "int fault()", "int now(int)",
         "int fact(int,int)", "int about(int,int)", "int tell(int,int,int)", "int refuted(int)", "int ring(int)",
@@ -29,7 +33,10 @@ final class FaceTest {
                 Check.due(m.getName() + " is public", Modifier.isPublic(m.getModifiers()), true);
             }
         }
-        Check.due("the face is the document's", open.equals(new TreeSet<>(Arrays.asList(FACE))), true);
+        Check.due("the face is as it should be", open.equals(new TreeSet<>(Arrays.asList(FACE))), true);
+        if (Files.exists(DOC)) {
+            Check.due("the face is the document's", open.equals(documentFace()), true);
+        }
         for (Method m : SpanFacts.class.getDeclaredMethods()) {
             if (Modifier.isPrivate(m.getModifiers())) {
                 Check.due(m.getName() + " bears a public name", publicNames.contains(m.getName()), false);
@@ -56,6 +63,18 @@ final class FaceTest {
             Check.due(inside.getName() + " is static", Modifier.isStatic(inside.getModifiers()), true);
         }
         Check.close("FaceTest");
+    }
+
+    /** The methods of the document's face, with their types alone. */
+    private static Set<String> documentFace() throws IOException {
+        Set<String> face = new TreeSet<>();
+        for (String line : Files.readAllLines(DOC)) {
+            if (line.matches("    public \\w+ \\w+\\(.*\\).*;")) {
+                String plain = line.replaceAll("^ *public ", "").replaceAll("\\).*", ")");
+                face.add(plain.replaceAll("(int|boolean) \\w+([,)])", "$1$2").replace(", ", ","));
+            }
+        }
+        return face;
     }
 
     private static String text(Method m) {
